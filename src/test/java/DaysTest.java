@@ -125,6 +125,9 @@ public final class DaysTest {
         Due.is("drops of b and c ask b", y.sum(6, 1), 60);
         Due.is("drops of a and b ask a", y.sum(3, 1), 0);
         Due.is("drops of c", y.sum(4, 1), 0);
+        BellAndDrop z = Due.withRule("gain 100;fade 4;drop kind*10;", 0, 0, 0, 0, 0, 0, 3, 2);
+        Due.is("drops of h", z.sum(128, 1), 2);
+        Due.is("drops of g and h", z.sum(192, 1), 3);
     }
 
     private static void days() {
@@ -151,6 +154,12 @@ public final class DaysTest {
         Due.is("count(7)", x.count(7), 800);
         Due.is("on", x.told(1, 2), 400);
         Due.is("trial on day 400", x.trial(0, 1), 1000);
+        BellAndDrop y = Due.withSigns(0);
+        for (int i = 0; i < 8; i++) {
+            Due.plan(y, "a+");
+        }
+        Due.is("days(7, 1)", y.days(7, 1), 1);
+        Due.is("days(8, 1)", y.days(8, 1), -2);
     }
 
     private static void daysByTheRule() {
@@ -175,6 +184,11 @@ public final class DaysTest {
         Due.is("trials on the day outside the plan", y.told(0, 1), 200);
         y.days(0, 1);
         Due.is("and none on the next day", y.told(0, 1), 200 + 160);
+        BellAndDrop z = Due.withRule("gain 100*(trial=0);fade 0;drop 0;", 0);
+        Due.plan(z, "a+a+");
+        z.pace(100);
+        z.days(0, 2);
+        Due.is("the first of each day", z.told(0, 1), 200 + 160);
     }
 
     private static void rests() {

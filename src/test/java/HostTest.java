@@ -4,6 +4,7 @@ public final class HostTest {
 
     public static void main(String[] args) {
         sheet();
+        sheetIsMadeAnew();
         cell();
         copy();
         copyOfItself();
@@ -107,6 +108,16 @@ public final class HostTest {
         Due.is("none behind the end", x.copy(0, 13, 1, 0, 0), -12);
         Due.is("none behind the other's end", x.copy(0, 0, 1, 9, 0), -12);
         Due.is("all", x.copy(1, 0, 0, 4, 8), 8);
+    }
+
+    private static void sheetIsMadeAnew() {
+        BellAndDrop x = withRows(1);
+        x.sheet(0, 1, 12);
+        Due.is("all 0", seen(x, 0, 1, 2), 0);
+        x.cell(0, 4, 9);
+        x.sheet(0, -1, 0);
+        x.sheet(0, 2, 12);
+        Due.is("all 0 behind a missing one", seen(x, 0, 2, 4), 0);
     }
 
     private static void copyOfItself() {

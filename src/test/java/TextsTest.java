@@ -64,13 +64,13 @@ public final class TextsTest {
         String[] texts = {
             "^", "   ^", "^fade 1;", "^gainx 1;", "gain ^;", "gain 1^", "gain 1 ^", "gain 1; ^drop 1;",
             "gain 1; fade 1; drop 1^", "gain 1; fade 1; drop 1; ^;", "gain 1; fade 1; drop 1;^1",
-            "gain 1;fade 1;drop 1;^gain 1;", "gain ^12345;", "gain 1 ^12345", "gain ^00001;", "gain 1^a;",
+            "gain 1;fade 1;drop 1;^gain 1;", "gain 1;fade 1;drop 1;^/", "gain 1;fade 1;drop 1; ^x", "gain 1;fade 1;drop 1;\n^12345", "gain ^12345;", "gain 1 ^12345", "gain ^00001;", "gain 1^a;",
             "gain ^strengthsum;", "gain 1^ABC", "^Gain 1;", "gain 1 ^/ 2;", "gain ^\t1;", "gain ^\r1;", "gain 1 ^2;",
             "gain 1 < 2 ^< 3;", "gain 1 = 2 ^= 3;", "gain 1 < 2 ^= 3;", "gain not 1 < 2 ^< 3;", "gain 1 + ^not 2;",
             "gain 1 * ^not 2;", "gain 1 < ^not 2;", "gain - ^not 2;", "gain ^or 1;", "gain 1 or ^;", "gain 1 and ^and 1;",
             "gain 1 ^not;", "gain (^);", "gain (1^;", "gain 1^);", "gain (1 ^2);", "gain ^+1;", "gain 1 + ^+ 1;",
             "gain 1 + - 1^", "gain ^* 1;", "gain ^gain;", "gain 1 ^gain;", "gain 1 ^fade;", "gain 1;fade ^drop;",
-            "gain ^\u00e9;", "gain 1^\u00e9", "gain 1^\0", "gain day^2;", "gain ^days;", "gain 1 ^sum;",
+            "gain ^\u00e9;", "gain 1^\u00e9", "gain 1^\0", "gain day^2;", "gain ^days;", "gain ^rum;", "gain 1 ^xr 2;", "^pain 1;", "gain 1 ^sum;",
             "gain 1 ^o", "gain (1 < 2) < 3 ^< 4;", "gain 1 < (2 < 3 ^< 4);", "gain not12 ^not;",
             "gain not^", "gain -^", "gain (^", "gain ^;fade 12345;"};
         for (String marked : texts) {
@@ -113,6 +113,8 @@ public final class TextsTest {
         Due.is("the seventh text", x.text(), -4);
         Due.is("count(3)", x.count(3), 6);
         Due.is("the tape stays", x.count(4), 4);
+        Due.is("so it is not taken", x.force(6), -2);
+        longTextsOneByOne();
         StringBuilder longest = new StringBuilder(RULE);
         while (longest.length() < 160) {
             longest.append(' ');
@@ -120,6 +122,20 @@ public final class TextsTest {
         Due.is("a text of 160 bytes", Due.text(Due.withSigns(0), longest.toString()), 1);
         longest.setCharAt(24, ' ');
         Due.is("one that ends too early", Due.text(Due.withSigns(0), longest.toString()), -260);
+    }
+
+    /** What one text says has nothing to do with those that were read ahead of it. */
+    private static void longTextsOneByOne() {
+        BellAndDrop x = Due.withSigns(0);
+        for (int i = 1; i < 6; i++) {
+            Due.text(x, "gain 1" + "+1".repeat(60));
+            Due.is("long text " + i, Due.text(x, "gain 1" + "+1".repeat(50) + ";fade " + i + ";drop 1" + i + "0;"), i);
+        }
+        for (int i = 1; i < 6; i++) {
+            x.force(i);
+            Due.is("fades by text " + i, x.told(0, 4), i);
+            Due.is("drops by text " + i, x.sum(1, 1), 10 + i);
+        }
     }
 
     /** What an E says, looked at through DROPS of a sign: tens of it. */
@@ -150,6 +166,11 @@ public final class TextsTest {
         says("5 or 0", 1);
         says("0 or 0", 0);
         says("5 and 6", 1);
+        says("1 and 6", 1);
+        says("6 and 1", 1);
+        says("0 and 6", 0);
+        says("1 or 6", 1);
+        says("0 or 6", 1);
         says("5 and 0", 0);
         says("not 5", 0);
         says("not 0", 1);

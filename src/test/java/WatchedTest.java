@@ -6,6 +6,7 @@ public final class WatchedTest {
         watched();
         lets();
         letsStartsAnew();
+        letsBehindBlocked();
         thrownOut();
         next();
         near();
@@ -90,6 +91,21 @@ public final class WatchedTest {
         x.goes(4, 1, 50);
         // half of it: 14 by 100, 13 by 95
         Due.is("by another goes", x.lets(0, 1), 100);
+    }
+
+    /** What was thought through ahead of it does not count either. */
+    private static void letsBehindBlocked() {
+        BellAndDrop x = Due.withRule("gain 100*(trial=0);fade 0;drop sum;", 0);
+        Due.plan(x, "a+a+a+");
+        x.watched(0, 1, 1);
+        Due.is("by 5", x.lets(0, 1), 5);
+        x.blocked(0);
+        Due.is("by 5 still", x.lets(0, 1), 5);
+        BellAndDrop y = Due.withRule("gain 100*(trial=3);fade 0;drop sum;", 4);
+        Due.plan(y, "a+a+a+a+");
+        y.watched(0, 1, 30);
+        // on 3 times it is not dull yet
+        Due.is("by 100, from never on", y.lets(0, 1), 100);
     }
 
     private static void thrownOut() {
@@ -274,6 +290,16 @@ public final class WatchedTest {
         x.back();
         Due.is("it keeps what it has then", x.told(1, 1), later);
         Due.is("told(2, 1)", x.told(2, 1), NO);
+        BellAndDrop y = Due.withSigns(0, 0, 0, 0, 0, 0, 0, 0);
+        y.trial(128, 1);
+        y.trial(0, 0);
+        y.image();
+        y.trial(128, 2);
+        y.trial(128, 2);
+        y.back();
+        Due.is("h, meat: above", y.counted(7, 1, 0), 1);
+        Due.is("h, meat: below", y.counted(7, 1, 1), 1);
+        Due.is("h, shock: above", y.counted(7, 2, 0), 0);
     }
 
     /** The trials of the day that an image keeps are those that there were; see NOTES. */
