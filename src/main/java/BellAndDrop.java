@@ -484,7 +484,7 @@ public final class BellAndDrop {
         return at == above;
     }
 
-    /** Of two numbers, the second above 0, so that what is answered may divide. */
+    /** Of two numbers, none below 0; 1 at least, as what is answered divides. */
     private static long commonDivisor(long a, long b) {
         long greater = b;
         long less = a;
@@ -493,7 +493,7 @@ public final class BellAndDrop {
             greater = less;
             less = rest;
         }
-        return greater;
+        return Math.max(1L, greater);
     }
 
     /** Which PACES the WATCHED DAYS let, and the last WATCHED DAY that threw one out. */

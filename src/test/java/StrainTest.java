@@ -88,7 +88,7 @@ public final class StrainTest {
         BellAndDrop x = Due.withSigns(0, 1, 2, 3, 4, 5, 0, 1);
         for (int i = 0; i < 8; i++) {
             // 24 trials, as many letters as the tape has room for
-            Due.plan(x, "abcde+".repeat(16) + "abcdefg!".repeat(8));
+            Due.is("a long plan", Due.plan(x, "abcde+".repeat(16) + "abcdefg!".repeat(8)), i);
         }
         StringBuilder rule = new StringBuilder("gain 100");
         while (rule.length() < 130) {
