@@ -859,7 +859,7 @@ public final class BellAndDrop {
 
         /** A byte of the tape, NONE outside of it. */
         int byteAt(int place) {
-            return within(place, 0, size - 1) ? bytes[place] : NONE;
+            return place >= 0 && place < size ? bytes[place] : NONE;
         }
     }
 
